@@ -1,3 +1,4 @@
+import java.util.Arrays;
 import java.util.Random;
 
 /** Promises 15 to 17: decode, save, load. */
@@ -10,6 +11,7 @@ public final class MendTest {
     public static void main(String[] args) {
         promise15EveryShortWord();
         promise15EveryFewErrorsInLongWords();
+        promise15EveryRestOfLongWords();
         promise15AnyLongWord();
         promise15AllWordsOrNone();
         promise15WrongInputs();
@@ -52,6 +54,39 @@ public final class MendTest {
                 }
             }
         }
+    }
+
+    /**
+     * Whether a word can be mended, and where, hangs on what is left when the generator divides it:
+     * the words of a lower degree than the generator's stand for all words of length 31.
+     */
+    private static void promise15EveryRestOfLongWords() {
+        for (int p : new int[] {37, 41, 47, 55, 59, 61}) {
+            for (int t = 1; t <= 3; t++) {
+                int[] due = nearestByRest(PlainCodes.leastGenerator(p, t), t);
+                for (int word = 0; word < due.length; word++) {
+                    for (int way = 0; way < 3; way++) {
+                        mends(p, t, way, word, due[word]);
+                    }
+                }
+            }
+        }
+    }
+
+    private static int[] nearestByRest(int g, int t) {
+        int[] nearest = new int[1 << PlainCodes.degree(g)];
+        Arrays.fill(nearest, -1);
+        nearest[0] = 0;
+        for (int a = 0; a < 31; a++) {
+            for (int b = a; b < (t > 1 ? 31 : a + 1); b++) {
+                for (int c = b; c < (t > 2 ? 31 : b + 1); c++) {
+                    int errors = 1 << a | 1 << b | 1 << c;
+                    int rest = PlainCodes.remainder(errors, g);
+                    nearest[rest] = rest ^ errors;
+                }
+            }
+        }
+        return nearest;
     }
 
     private static void promise15AnyLongWord() {
