@@ -464,8 +464,8 @@ public final class NoisyCodes {
         abstract void locate(Field field, int[] syndromes, int t, int[] locator);
 
         static void addShifted(Field field, int[] sum, int[] row, int factor, int shift) {
-            for (int i = 0; i + shift < ROW; i++) {
-                sum[i + shift] ^= field.product(factor, row[i]);
+            for (int i = shift; i < ROW; i++) {
+                sum[i] ^= field.product(factor, row[i - shift]);
             }
         }
     }

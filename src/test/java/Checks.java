@@ -31,13 +31,18 @@ final class Checks {
         }
     }
 
-    /** The exception's very class is due, so that no subclass slips through. */
+    /** The very class, so that no subclass slips through; one that Java threw by itself (a division by 0) bears a text. */
+    static String shown(RuntimeException thrown) {
+        String name = thrown.getClass().getName();
+        return thrown.getMessage() == null ? name : name + " by itself: " + thrown.getMessage();
+    }
+
     void throwsOnly(String what, Class<? extends RuntimeException> due, Act act) {
         String got = "nothing";
         try {
             act.run();
         } catch (RuntimeException e) {
-            got = e.getClass().getName();
+            got = shown(e);
         }
         if (got.equals(due.getName())) {
             passed++;

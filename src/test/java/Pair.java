@@ -50,7 +50,7 @@ final class Pair {
         try {
             return Long.toString(call.answer());
         } catch (RuntimeException e) {
-            return e.getClass().getName();
+            return Checks.shown(e);
         }
     }
 

@@ -108,7 +108,7 @@ final class Twins {
             text.append(' ').append(call.answer());
             return true;
         } catch (RuntimeException e) {
-            text.append(' ').append(e.getClass().getSimpleName());
+            text.append(' ').append(Checks.shown(e));
             return false;
         }
     }
